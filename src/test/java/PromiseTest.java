@@ -221,6 +221,7 @@ public final class PromiseTest {
         int b = x.term(B, 0, 0);
         x.rule(a, b);
         x.rule(b, a);
+        due("5 before", x.reaches(b, a), true);
         due("5 last", x.cut(), true);
         due("5 last went", x.reaches(b, a), false);
         due("5 first stayed", x.reaches(a, b), true);
@@ -387,6 +388,8 @@ public final class PromiseTest {
         due("10 no transition", x.has(both), false);
         x.edge(F, 1, 0, 1);
         due("10 order of places", x.has(both), false);
+        x.edge(F, 0, 0, 1);
+        due("10 second place", x.has(both), false);
         x.edge(F, 0, 1, 1);
         due("10 two places", x.has(both), true);
         x.edge(A, 0, 0, 1);
@@ -469,11 +472,23 @@ public final class PromiseTest {
         }
         x.edge(G, 0, 0, 5);
         due("14 lighter", x.lightest(5), 2);
+        x.edge(G, 2, 0, 1);
+        due("14 not heavier", x.lightest(1), 3);
+        x.edge(H, 0, 0, 1);
+        due("14 lighter, though found later", x.lightest(1), 2);
+        due("14 and what is built on it", x.lightest(3), 11);
         x.edge(K, 5, 3, 4);
-        due("14 lighter of two", x.lightest(4), 18);
+        due("14 lighter of two", x.lightest(4), 14);
         argument("14 above", () -> x.lightest(6));
         argument("14 below", () -> x.lightest(-1));
         due("14 terms need not be made", x.look(0), 0);
+        GroundReach y = new GroundReach(USUAL);
+        y.edge(A, 0, 0, 0);
+        y.edge(F, 0, 0, 1);
+        y.edge(F, 1, 1, 2);
+        y.edge(H, 0, 0, 1);
+        due("14 heavier ones first", y.lightest(1), 2);
+        due("14 heavier parts first", y.lightest(2), 5);
     }
 
     private static void step() {
