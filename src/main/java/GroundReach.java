@@ -102,6 +102,7 @@ public final class GroundReach {
         if (!terms.isMade(s) || !terms.isMade(t)) {
             throw new IllegalArgumentException();
         }
+        relations.renew();
         return relations.leads(s, t);
     }
 
@@ -109,6 +110,7 @@ public final class GroundReach {
         if (!terms.isMade(s) || !terms.isMade(t)) {
             throw new IllegalArgumentException();
         }
+        relations.renew();
         return relations.joins(s, t);
     }
 
@@ -123,6 +125,7 @@ public final class GroundReach {
         if (!terms.isMade(t)) {
             throw new IllegalArgumentException();
         }
+        relations.renew();
         return automaton.anyFinal(languages.statesBefore(t));
     }
 
@@ -130,6 +133,7 @@ public final class GroundReach {
         if (!terms.isMade(t)) {
             throw new IllegalArgumentException();
         }
+        relations.renew();
         return automaton.anyFinal(languages.statesBehind(t));
     }
 
@@ -137,6 +141,7 @@ public final class GroundReach {
         if (!terms.isMade(t)) {
             throw new IllegalArgumentException();
         }
+        relations.renew();
         return relations.leastSize(t);
     }
 
@@ -162,6 +167,7 @@ public final class GroundReach {
         if (!terms.isMade(s) || !terms.isMade(t)) {
             throw new IllegalArgumentException();
         }
+        relations.renew();
         return relations.leads(s, t) ? levels.levelOf(s, t) : NONE;
     }
 
@@ -435,7 +441,7 @@ public final class GroundReach {
             return found;
         }
 
-        /** A lightest term has no state twice on a path: as many rounds as states suffice, and it has at most 63 symbols. */
+        /** A lightest term has no state twice on a path: as many rounds as states suffice, and its size is below 64. */
         int leastSize(int state) {
             Arrays.fill(weight, NONE);
             for (int round = 0; round < STATES; round++) {
@@ -481,13 +487,22 @@ public final class GroundReach {
             this.rules = rules;
         }
 
+        /** What is asked of the relations is true of the terms and rules that there were here. */
+        void renew() {
+            if (termsThen == terms.count() && changesThen == rules.changes()) {
+                return;
+            }
+            termsThen = terms.count();
+            changesThen = rules.changes();
+            joinedKnown = false;
+            findReached();
+        }
+
         boolean leads(int s, int t) {
-            renew();
             return isIn(reached, s, t);
         }
 
         boolean joins(int s, int t) {
-            renew();
             if (!joinedKnown) {
                 findJoined();
                 joinedKnown = true;
@@ -496,7 +511,6 @@ public final class GroundReach {
         }
 
         int leastSize(int t) {
-            renew();
             int count = terms.count();
             for (int u = 0; u < count; u++) {
                 least[u] = terms.sizeOf(u);
@@ -506,16 +520,6 @@ public final class GroundReach {
                 changed = shrink(count);
             }
             return least[t];
-        }
-
-        private void renew() {
-            if (termsThen == terms.count() && changesThen == rules.changes()) {
-                return;
-            }
-            termsThen = terms.count();
-            changesThen = rules.changes();
-            joinedKnown = false;
-            findReached();
         }
 
         private void findReached() {
@@ -792,7 +796,11 @@ public final class GroundReach {
             start(s);
             int level = 0;
             while (level < MOST_IN_LEVELS && countedTerms <= MOST_IN_LEVELS && !isIn(inLevels, t)) {
-                expandAll();
+                int many = findWaiting();
+                for (int i = 0; i < many && countedTerms <= MOST_IN_LEVELS; i++) {
+                    expand(waiting[i]);
+                    expanded[waiting[i]] = true;
+                }
                 goOn();
                 level++;
             }
@@ -815,17 +823,14 @@ public final class GroundReach {
         }
 
         /** Only what is counted before the first one is expanded: the others belong to the next level. */
-        private void expandAll() {
+        private int findWaiting() {
             int many = 0;
             for (int t = 0; t < terms.count(); t++) {
                 if (counted[t] && !expanded[t]) {
                     waiting[many++] = t;
                 }
             }
-            for (int i = 0; i < many && countedTerms <= MOST_IN_LEVELS; i++) {
-                expand(waiting[i]);
-                expanded[waiting[i]] = true;
-            }
+            return many;
         }
 
         /** The parts of t have lower numbers, so they have been expanded before it. */
