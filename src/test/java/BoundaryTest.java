@@ -1166,6 +1166,26 @@ public final class BoundaryTest {
         due(TERMS_48, "none more, the last rule", x -> x.step(0, 1), 2);
         refused(TERMS_48, "no such step either", x -> x.step(5, 2), INDEX);
         refused(TERMS_48, "above 999 too", x -> x.step(5, 1000), INDEX);
+        asDeepAsItGets();
+    }
+
+    private static void asDeepAsItGets() {
+        Scene shrinks = () -> {
+            GroundReach x = new GroundReach(USUAL);
+            tower(x, G, x.term(A, 0, 0), 47);
+            x.rule(1, 0);
+            return x;
+        };
+        Scene grows = () -> {
+            GroundReach x = shrinks.make();
+            x.rule(0, 1);
+            return x;
+        };
+        due(shrinks, "46 deep, to a known one", x -> x.step(47, 0), 46);
+        due(grows, "46 deep, to a known one", x -> x.step(47, 0), 46);
+        due(grows, "46 deep in the one before", x -> x.step(46, 1), 47);
+        refused(grows, "47 deep, to a 49th one", x -> x.step(47, 1), STATE);
+        refused(grows, "no deeper", x -> x.step(47, 2), INDEX);
     }
 
     // ---- Promise 16
@@ -1179,6 +1199,7 @@ public final class BoundaryTest {
         doesNotReach();
         moreThan400InOneLevel();
         moreThan400InManyLevels();
+        moreThan400BeforeTheLast();
     }
 
     private static void doesNotReach() {
@@ -1239,10 +1260,12 @@ public final class BoundaryTest {
 
     /**
      * With a rule c to g(c), the levels of f(c, c) up to n have the f(g..(c), g..(c)) with at most n symbols g and the
-     * parts g..(c): 351 and 26 for 25, and the parts of c beside it.
+     * parts g..(c): 351 and 26 for 25, and the parts of c beside it. What the rule of b makes is none of them.
      */
     private static GroundReach twoTowers(int partsOfC) {
         GroundReach x = new GroundReach(USUAL);
+        int b = x.term(B, 0, 0);
+        x.rule(b, x.term(K, b, b));
         int c = tower(x, H, x.term(A, 0, 0), partsOfC);
         int twelve = tower(x, G, c, 12);
         int thirteen = x.term(G, twelve, 0);
@@ -1270,6 +1293,41 @@ public final class BoundaryTest {
         }
     }
 
+    /**
+     * Two chains h..(c) become shorter below f and 5 times g: 64 * 6 terms, 8 chains with c, and the parts of c. Where
+     * both are c, that becomes a, and the whole a part of c: the last level has nothing that was not counted before.
+     */
+    private static GroundReach twoChains(int partsOfC, boolean partsInFirst) {
+        GroundReach x = new GroundReach(USUAL);
+        int a = x.term(A, 0, 0);
+        int b = x.term(B, 0, 0);
+        int deep = tower(x, G, a, partsOfC - 2);
+        int c = partsInFirst ? x.term(K, deep, b) : x.term(K, b, deep);
+        int chain = tower(x, H, c, 7);
+        x.rule(x.term(H, c, 0), c);
+        x.rule(x.term(F, c, c), a);
+        tower(x, G, x.term(F, chain, chain), 5);
+        return x;
+    }
+
+    private static void moreThan400BeforeTheLast() {
+        says("16: the terms of the levels up to that one: 400, and then a level with none that is new");
+        for (int parts = 7; parts <= 10; parts++) {
+            for (boolean inFirst : new boolean[] {true, false}) {
+                int total = 64 * 6 + 8 + parts;
+                GroundReach x = twoChains(parts, inFirst);
+                int s = x.look(0) - 1;
+                int partOfC = x.term(G, 5, 0);
+                due("made before", partOfC, 6);
+                due("15 steps, " + total, x.distance(s, partOfC), total <= 400 ? 15 : TOO_MANY);
+                due("again", x.distance(s, partOfC), total <= 400 ? 15 : TOO_MANY);
+                due("one g less, with 64 fewer", x.distance(s - 1, partOfC - 1), 15);
+                due("not back", x.distance(partOfC, s), NONE);
+                due("to another one", x.distance(s, 1), NONE);
+            }
+        }
+    }
+
     // ---- Promise 17
 
     private static void look() {
@@ -1286,10 +1344,9 @@ public final class BoundaryTest {
         due("all rules", RULES_8.make().look(1), 8);
         due("all transitions", EDGES_20.make().look(2), 20);
         says("17: 3: final states, as bits");
-        GroundReach x = EMPTY.make();
-        for (int bits = 1; bits < 64; bits++) {
+        for (int bits = 0; bits < 64; bits++) {
+            GroundReach x = EMPTY.make();
             for (int state = 0; state < 6; state++) {
-                x = state == 0 ? EMPTY.make() : x;
                 x.mark(state, (bits >> state & 1) != 0);
             }
             due("final states", x.look(3), bits);
