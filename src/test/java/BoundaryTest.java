@@ -1,5 +1,7 @@
 import java.util.ArrayList;
+import java.util.HashMap;
 import java.util.List;
+import java.util.Map;
 
 /**
  * Each sentence of the document that names a boundary case: both sides of the boundary, and that a refused call changes
@@ -43,8 +45,8 @@ public final class BoundaryTest {
     private static int sentences = 0;
     private static int checks = 0;
     private static int wrong = 0;
-    private static Scene remembered = null;
-    private static List<Integer> untouched = null;
+    private static final Map<Scene, List<Integer>> UNTOUCHED = new HashMap<>();
+    private static final Map<Scene, List<List<Ask>>> ASKED = new HashMap<>();
 
     public static void main(String[] args) {
         theTerms();
@@ -109,13 +111,13 @@ public final class BoundaryTest {
     /** The call answers so, and whatever can be asked afterwards is answered as if it had not been made. */
     private static void refused(Scene scene, String call, Ask asked, int want) {
         due(scene, call, asked, want);
-        if (remembered != scene) {
-            remembered = scene;
-            untouched = allAnswers(scene, x -> 0);
+        if (!ASKED.containsKey(scene)) {
+            ASKED.put(scene, groups(scene));
+            UNTOUCHED.put(scene, allAnswers(scene, x -> 0));
         }
         List<Integer> touched = allAnswers(scene, asked);
         checks++;
-        if (!touched.equals(untouched)) {
+        if (!touched.equals(UNTOUCHED.get(scene))) {
             wrong++;
             System.out.println("'" + sentence + "': " + call + " has changed the object");
         }
@@ -124,7 +126,7 @@ public final class BoundaryTest {
     private static List<Integer> allAnswers(Scene scene, Ask before) {
         int terms = scene.make().look(0);
         List<Integer> answers = new ArrayList<>();
-        for (List<Ask> asked : groups(terms)) {
+        for (List<Ask> asked : ASKED.get(scene)) {
             GroundReach x = scene.make();
             askAtEach(x, terms);
             ask(x, before);
@@ -146,8 +148,10 @@ public final class BoundaryTest {
         }
     }
 
-    private static List<List<Ask>> groups(int terms) {
+    private static List<List<Ask>> groups(Scene scene) {
+        int terms = scene.make().look(0);
         List<List<Ask>> groups = new ArrayList<>();
+        groups.add(askedOfKnownTransitions(scene));
         split(groups, askedOfTerms(terms));
         split(groups, askedOfPairs(terms));
         split(groups, askedOfTransitions());
@@ -214,6 +218,18 @@ public final class BoundaryTest {
                 asked.add(x -> bit(x.edge(symbol, p, q, to)));
             }
         }
+        return asked;
+    }
+
+    /** These first, as long as no refused one of the others could hide what has happened. */
+    private static List<Ask> askedOfKnownTransitions(Scene scene) {
+        List<Ask> asked = new ArrayList<>();
+        for (Ask one : askedOfTransitions()) {
+            if (ask(scene.make(), one) == FALSE) {
+                asked.add(one);
+            }
+        }
+        asked.add(x -> x.look(2));
         return asked;
     }
 
