@@ -11,10 +11,15 @@ import java.util.TreeSet;
 /** The public face, and those rules of LANGUAGE.md that a program can see. Runs in the project's directory. */
 public final class FaceTest {
     private static final String[] FACE = {
-        "int term(int,int,int)", "int of(int,int)", "int rule(int,int)", "boolean cut()",
-        "boolean edge(int,int,int,int)", "boolean mark(int,boolean)", "boolean reaches(int,int)",
-        "boolean meet(int,int)", "boolean has(int)", "boolean from(int)", "boolean into(int)", "int least(int)",
-        "int lightest(int)", "int step(int,int)", "int distance(int,int)", "int look(int)"};
+        "int term(int,int,int) IllegalArgumentException IllegalStateException", "int of(int,int)",
+        "int rule(int,int) IllegalArgumentException IllegalStateException", "boolean cut()",
+        "boolean edge(int,int,int,int) IllegalArgumentException IllegalStateException", "boolean mark(int,boolean)",
+        "boolean reaches(int,int) IllegalArgumentException", "boolean meet(int,int) IllegalArgumentException",
+        "boolean has(int) IllegalArgumentException", "boolean from(int) IllegalArgumentException",
+        "boolean into(int) IllegalArgumentException", "int least(int) IllegalArgumentException",
+        "int lightest(int) IllegalArgumentException",
+        "int step(int,int) IndexOutOfBoundsException IllegalStateException",
+        "int distance(int,int) IllegalArgumentException", "int look(int)"};
     private static final String[] FORBIDDEN = {
         "->", "::", "finally", "synchronized", "assert ", "static {", "try ", "catch ", "System.", "package ",
         "Exact(", "double", "float", "getMessage", "protected "};
@@ -38,7 +43,7 @@ public final class FaceTest {
         }
     }
 
-    private static void members() {
+    private static void members() throws Exception {
         Class<?> face = GroundReach.class;
         must(Modifier.isPublic(face.getModifiers()) && Modifier.isFinal(face.getModifiers()), "public and final");
         Set<String> found = new TreeSet<>();
@@ -48,15 +53,22 @@ public final class FaceTest {
             }
             must(Modifier.isPublic(m.getModifiers()) && !Modifier.isStatic(m.getModifiers()), "visible: " + m);
             String parameters = String.join(",", Arrays.stream(m.getParameterTypes()).map(Class::getName).toList());
-            found.add(m.getReturnType() + " " + m.getName() + "(" + parameters + ")");
+            StringBuilder signature = new StringBuilder(m.getReturnType() + " " + m.getName() + "(" + parameters + ")");
+            for (Class<?> thrown : m.getExceptionTypes()) {
+                signature.append(' ').append(thrown.getSimpleName());
+            }
+            found.add(signature.toString());
         }
         must(found.equals(new TreeSet<>(Arrays.asList(FACE))), "methods: " + found);
         Constructor<?>[] constructors = face.getDeclaredConstructors();
         must(constructors.length == 1 && Modifier.isPublic(constructors[0].getModifiers())
-            && Arrays.equals(constructors[0].getParameterTypes(), new Class<?>[] {int.class}), "constructor");
+            && Arrays.equals(constructors[0].getParameterTypes(), new Class<?>[] {int.class})
+            && constructors[0].getExceptionTypes().length == 0, "constructor");
         for (Field f : face.getDeclaredFields()) {
             must(f.getName().equals("NONE") == !Modifier.isPrivate(f.getModifiers()), "field " + f);
         }
+        Field none = face.getDeclaredField("NONE");
+        must(none.toString().equals("public static final int GroundReach.NONE") && none.getInt(null) == -1, "" + none);
     }
 
     private static void nestedClasses() {

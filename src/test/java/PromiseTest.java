@@ -44,6 +44,7 @@ public final class PromiseTest {
         look();
         refusedCallsChangeNothing();
         answersFollowChanges();
+        exampleOfReadme();
         System.out.println(wrong == 0 ? "all promises hold" : wrong + " answers are wrong");
         if (wrong != 0) {
             System.exit(1);
@@ -701,5 +702,21 @@ public final class PromiseTest {
         due("0 a new term", x.reaches(gb, c), true);
         due("0 a new term", x.meet(c, gb), true);
         due("0 a new term", x.distance(gb, c), 1);
+    }
+
+    private static void exampleOfReadme() {
+        GroundReach x = new GroundReach(2640);
+        int a = x.term(0, 0, 0);
+        int ga = x.term(2, a, 0);
+        int faa = x.term(4, a, a);
+        int fgaga = x.term(4, ga, ga);
+        x.rule(a, ga);
+        due("README: reaches", x.reaches(faa, fgaga), true);
+        due("README: distance", x.distance(faa, fgaga), 2);
+        x.edge(0, 0, 0, 0);
+        x.edge(4, 0, 0, 1);
+        x.mark(1, true);
+        due("README: has", x.has(fgaga), false);
+        due("README: from", x.from(fgaga), true);
     }
 }
